@@ -9,7 +9,8 @@ import java.util.Arrays;
 public final class StepsAhead {
     public static final int NONE = -1000000, BAD = -1000001, STATE = -1000002, FULL = -1000003, SPENT = -1000004, KIND = -1000005;
 
-    private static final int ANY_OP = 0, WORK = 1, COUNTED = 2, LOOP = 3, CALL = 4, EITHER = 5, END = 6, OR = 7, DONE = 8;
+    private static final int ANY_OP = 0, WORK = 1, COUNTED = 2, LOOP = 3, CALL = 4, EITHER = 5;
+    private static final int END = 6, OR = 7, DONE = 8;
     private static final int LOWER = 0, UPPER = 1, SIDES = 2;
     private static final int FIRST_ALWAYS = 0, SECOND_ALWAYS = 1, BY_LOT = 2, MOST_STEPS = 3, FEWEST_STEPS = 4;
 
@@ -285,7 +286,8 @@ public final class StepsAhead {
                     all += next.isWhole() ? 1 : 0;
                     break;
                 case 3:
-                    all += sure(number) == 1 ? 1 : 0;
+                    boolean stands = refusalOf(next, LOWER) == 0 && refusalOf(next, UPPER) == 0;
+                    all += stands && next.hasSameSides() ? 1 : 0;
                     break;
                 default:
                     all += next.callCount();
@@ -926,7 +928,7 @@ public final class StepsAhead {
     private static final class Products {
         static final int ALL = 252;
         private static final int[] UP_TO = {1, 6, 21, 56, 126, 252};
-        private static final int NO_PRODUCT = -1;
+        static final int NO_PRODUCT = -1;
 
         /** times[v][p]: product p times variable v. */
         private final int[][] times = new int[VARIABLES][ALL];
@@ -975,6 +977,11 @@ public final class StepsAhead {
             return times[variable][product];
         }
 
+        /** Whether all variables of a product come ahead of one. */
+        boolean isAheadOf(int product, int variable) {
+            return product >= 0 && product < ALL && lastVariable[product] < variable;
+        }
+
         /** How many products have so many powers together, or fewer. */
         static int upTo(int powers) {
             if (powers < 0) {
@@ -997,12 +1004,12 @@ public final class StepsAhead {
         }
 
         /**
-         * A row of so many powers becomes itself times an EXPRESSION that has some LOOPS around it.
+         * A row with so many products becomes itself times an EXPRESSION that has some LOOPS around it.
          * From the last product on down, as what a product gives goes to later ones, that are done.
          */
-        void multiply(long[] row, int powers, int[] expression, int loopsAround) {
+        void multiply(long[] row, int products, int[] expression, int loopsAround) {
             int variables = INPUTS + loopsAround;
-            for (int product = upTo(powers) - 1; product >= 0; product--) {
+            for (int product = Math.min(products, ALL) - 1; product >= 0; product--) {
                 long scaled = row[product];
                 if (scaled != 0) {
                     row[product] = scaled * expression[0];
@@ -1081,7 +1088,7 @@ public final class StepsAhead {
 
         private void add(long[] row, int product, long scaled) {
             row[product] += scaled;
-            if (Math.abs(row[product]) > MOST_FRACTION) {
+            if (row[product] > MOST_FRACTION || row[product] < -MOST_FRACTION) {
                 full = true;
             }
         }
@@ -1091,7 +1098,7 @@ public final class StepsAhead {
             for (int product = 0; product < Products.ALL; product++) {
                 long scaled = ofOp[product];
                 if (scaled != 0) {
-                    if (Math.abs(scaled) > MOST_FRACTION) {
+                    if (scaled > MOST_FRACTION || scaled < -MOST_FRACTION) {
                         full = true;
                     }
                     add(rows[top], product, scaled);
@@ -1138,7 +1145,7 @@ public final class StepsAhead {
             int counter = loop.counter();
             int products = Products.upTo(powers);
             for (int product = 0; product < products; product++) {
-                if (table.lastVariable[product] < counter) {
+                if (table.isAheadOf(product, counter)) {
                     int withCounter = product;
                     for (int k = 0; k <= powers && withCounter >= 0; k++) {
                         ofOp[product] += round[withCounter] * sumOfPowers(k, loop.first[0]);
@@ -1160,11 +1167,14 @@ public final class StepsAhead {
             return sum;
         }
 
-        /** From the highest power of the EXPRESSION on down: what stands is put times it, then the next comes to it. */
+        /** The highest power of the EXPRESSION first: what stands is put times it, and the next one's comes to it. */
         private void sumToExpression(long[] round, int powers, Loop loop) {
             for (int j = powers + 1; j >= 1; j--) {
-                addFactorsOfPower(j, round, powers, loop.counter());
-                table.multiply(ofOp, powers + 1 - j, loop.first, loop.loopsAround);
+                int products = Products.upTo(powers + 1 - j);
+                for (int product = 0; product < products; product++) {
+                    ofOp[product] += factorOfPower(j, round, product, loop.counter());
+                }
+                table.multiply(ofOp, products, loop.first, loop.loopsAround);
             }
             for (int product = 0; product < Products.ALL; product++) {
                 if (ofOp[product] % SUMS_SCALE != 0) {
@@ -1174,17 +1184,15 @@ public final class StepsAhead {
             }
         }
 
-        private void addFactorsOfPower(int j, long[] round, int powers, int counter) {
-            int products = Products.upTo(powers + 1 - j);
-            for (int product = 0; product < products; product++) {
-                if (table.lastVariable[product] < counter) {
-                    int withCounter = product;
-                    for (int k = 0; k <= powers && k < MOST_POWERS && withCounter >= 0; k++) {
-                        ofOp[product] += SUMS[k * POWERS + j] * round[withCounter];
-                        withCounter = table.timesVariable(withCounter, counter);
-                    }
-                }
+        /** What e^j has beside it, of all that is summed and is a product without the counter times powers of it. */
+        private long factorOfPower(int j, long[] round, int product, int counter) {
+            long sum = 0;
+            int withCounter = table.isAheadOf(product, counter) ? product : Products.NO_PRODUCT;
+            for (int k = 0; k < MOST_POWERS && withCounter >= 0; k++) {
+                sum += SUMS[k * POWERS + j] * round[withCounter];
+                withCounter = table.timesVariable(withCounter, counter);
             }
+            return sum;
         }
 
         private void takeCall(Call call) {
@@ -1196,7 +1204,7 @@ public final class StepsAhead {
             int powers = powersOfFormula(formula);
             Arrays.fill(ofOp, 0);
             for (int a = powers; a >= 0; a--) {
-                table.multiply(ofOp, powers - a - 1, call.first, call.loopsAround);
+                table.multiply(ofOp, Products.upTo(powers - a - 1), call.first, call.loopsAround);
                 putSecond(formula, a, powers - a, call);
                 for (int product = 0; product < Products.ALL; product++) {
                     ofOp[product] += part[product];
@@ -1210,7 +1218,7 @@ public final class StepsAhead {
         private void putSecond(long[] formula, int a, int powers, Call call) {
             Arrays.fill(part, 0);
             for (int b = powers; b >= 0; b--) {
-                table.multiply(part, powers - b - 1, call.second, call.loopsAround);
+                table.multiply(part, Products.upTo(powers - b - 1), call.second, call.loopsAround);
                 part[0] += formula[a * POWERS + b];
             }
         }

@@ -34,6 +34,10 @@ public final class PromiseTests {
         promise22Count();
         formulasThatAreFull();
         formulasThatAreNotFull();
+        fractionsBelowZero();
+        fractionsThatAreTooFine();
+        fullThoughTheSumIsNot();
+        eightWithinOneAnother();
         countersThatAreNotThere();
         changesWorkOnCallers();
         System.out.println(asked + " answers asked, " + wrong + " of them wrong");
@@ -851,7 +855,12 @@ public final class PromiseTests {
     private static void formulasThatAreFull() {
         StepsAhead x = million();
         dueTerm("full: 10^6 is not", x, 3, UPPER, 0, 1000000, 1, 0, 0);
+        x.back(3);
+        x.work(3, 19);
         x.call(4, 3);
+        dueTerm("full: 999999 and the call are not", x, 4, UPPER, 0, 1000000, 1, 0, 0);
+        x.back(3);
+        x.work(3, 20);
         due("full: 10^6 and the call", x.terms(4, UPPER), FULL);
         due("full: term", x.term(4, LOWER, 0, 0), FULL);
         due("full: term, t is not known", x.term(4, LOWER, 20, 0), FULL);
@@ -925,6 +934,141 @@ public final class PromiseTests {
         first(x, 0, 0, 0, 1, 0, 0);
         x.call(routine, called);
         x.close(routine, END);
+    }
+
+    /**
+     * From a routine on: 2 x1 steps; then either of two, whose LOWER is 1 + 32 x0^3 x1, as nothing else is
+     * in both; the sum of 3 + 512 i^4 for i up to x0, which has 3 - 256/15 = -211/15 x0; then either that
+     * or nothing, whose LOWER is -211/15 x0 + 1.
+     */
+    private static void addBelowZero(StepsAhead x, int from) {
+        first(x, 0, 0, 2, 0, 0, 0);
+        x.loop(from);
+        x.close(from, END);
+        int choice = from + 1;
+        x.either(choice);
+        first(x, 0, 2, 0, 0, 0, 0);
+        x.loop(choice);
+        x.loop(choice);
+        x.loop(choice);
+        second(x, 0, 0, 2, 0, 0, 0);
+        x.call(choice, from);
+        closeLoops(x, choice);
+        x.close(choice, OR);
+        first(x, 0, 0, 2, 0, 0, 0);
+        x.loop(choice);
+        first(x, 0, 2, 0, 0, 0, 0);
+        x.loop(choice);
+        x.loop(choice);
+        second(x, 0, 2, 0, 0, 0, 0);
+        x.call(choice, from);
+        closeLoops(x, choice);
+        x.close(choice, DONE);
+        int sum = from + 2;
+        first(x, 0, 1, 0, 0, 0, 0);
+        x.loop(sum);
+        first(x, 0, 0, 0, 2, 0, 0);
+        second(x, 0, 0, 0, 2, 0, 0);
+        x.call(sum, choice);
+        x.close(sum, END);
+        int alone = from + 3;
+        x.either(alone);
+        first(x, 0, 1, 0, 0, 0, 0);
+        x.call(alone, sum);
+        x.close(alone, OR);
+        x.close(alone, DONE);
+    }
+
+    private static void fractionsBelowZero() {
+        StepsAhead x = withRoutines(8);
+        addBelowZero(x, 0);
+        due("below 0: two terms", x.terms(1, LOWER), 2);
+        dueTerm("below 0: 32 x0^3 x1", x, 1, LOWER, 0, 32, 1, 3, 1);
+        dueTerm("below 0: 512/5 x0^5", x, 2, LOWER, 0, 512, 5, 5, 0);
+        dueTerm("below 0: -211/15 x0", x, 2, LOWER, 3, -211, 15, 1, 0);
+        due("below 0: two terms", x.terms(3, LOWER), 2);
+        dueTerm("below 0: -211/15 x0", x, 3, LOWER, 0, -211, 15, 1, 0);
+        dueTerm("below 0: 1", x, 3, LOWER, 1, 1, 1, 0, 0);
+        due("below 0: not below -196/15", x.value(3, LOWER, 1, 0), -13);
+        due("below 0: not below -206/5", x.value(3, LOWER, 3, 0), -41);
+        due("below 0: -210", x.value(3, LOWER, 15, 0), -210);
+    }
+
+    private static void fractionsThatAreTooFine() {
+        StepsAhead x = withRoutines(8);
+        addBelowZero(x, 0);
+        first(x, 0, 1, 0, 0, 0, 0);
+        x.loop(4);
+        first(x, 0, 0, 0, 1, 0, 0);
+        x.loop(4);
+        first(x, 0, 0, 0, 0, 1, 0);
+        x.loop(4);
+        first(x, 0, 0, 0, 0, 0, 1);
+        x.call(4, 3);
+        closeLoops(x, 4);
+        dueTerm("too fine: -211/360 x0^4 is not", x, 4, LOWER, 0, -211, 360, 4, 0);
+        sumOfCalls(x, 5, 4);
+        due("too fine: -211/1800 x0^5", x.terms(5, LOWER), FULL);
+        first(x, 0, 1, 0, 0, 0, 0);
+        x.call(6, 4);
+        dueTerm("too fine: not yet", x, 6, LOWER, 0, -211, 360, 4, 0);
+    }
+
+    /** Fractions of x0 beyond 10^6, beside one below 0 that would bring them back. */
+    private static void fullThoughTheSumIsNot() {
+        for (int order = 0; order < 3; order++) {
+            StepsAhead x = withRoutines(8);
+            x.work(0, 99);
+            x.work(0, 99);
+            x.work(0, 99);
+            x.work(0, 14);
+            int[] rest = {0, 8, 17};
+            for (int routine = 1; routine < 3; routine++) {
+                for (int i = 0; i < 20; i++) {
+                    x.call(routine, routine - 1);
+                }
+                x.work(routine, rest[routine]);
+            }
+            addBelowZero(x, 3);
+            first(x, 0, 1, 0, 0, 0, 0);
+            if (order != 1) {
+                x.call(7, 6);
+            }
+            // 1 and 8 * 124998 and what comes to 10^6 and 1, or 4 less
+            x.loop(7);
+            for (int i = 0; i < 8; i++) {
+                x.call(7, 2);
+            }
+            x.work(7, order == 0 ? 16 : 12);
+            x.close(7, END);
+            x.loop(7);
+            x.work(7, 7);
+            x.close(7, END);
+            if (order == 1) {
+                x.call(7, 6);
+            }
+            if (order == 2) {
+                dueTerm("row: 999997 + 8 - 211/15", x, 7, LOWER, 0, 1000005L * 15 - 211, 15, 1, 0);
+            } else {
+                due("row: " + (order == 0 ? "one op is full" : "the first two are full"), x.terms(7, LOWER), FULL);
+            }
+        }
+    }
+
+    private static void eightWithinOneAnother() {
+        StepsAhead x = withRoutines(1);
+        for (int i = 0; i < 8; i++) {
+            x.either(0);
+            x.close(0, OR);
+        }
+        for (int i = 0; i < 8; i++) {
+            x.close(0, DONE);
+        }
+        due("eight: upper", x.value(0, UPPER, 0, 0), 8);
+        due("eight: lower", x.value(0, LOWER, 0, 0), 1);
+        due("eight: the most", x.worth(0, 0, 0, 3), 8);
+        due("eight: the least", x.worth(0, 0, 0, 4), 1);
+        due("eight: second parts", x.worth(0, 0, 0, 1), 8);
     }
 
     private static void countersThatAreNotThere() {
