@@ -1,9 +1,5 @@
 /** What each promise of DOC.md asks for, by its number: ordinary inputs, edges and wrong inputs. */
-public final class PromiseTests {
-    private static final int NONE = -1000000, BAD = -1000001, STATE = -1000002, FULL = -1000003, SPENT = -1000004, KIND = -1000005;
-    private static final int LOWER = 0, UPPER = 1;
-    private static final int END = 6, OR = 7, DONE = 8;
-
+public final class PromiseTests extends Programs {
     private static int asked = 0;
     private static int wrong = 0;
 
@@ -54,22 +50,6 @@ public final class PromiseTests {
         }
     }
 
-    private static StepsAhead withRoutines(int routines) {
-        StepsAhead x = new StepsAhead();
-        for (int i = 0; i < routines; i++) {
-            x.routine();
-        }
-        return x;
-    }
-
-    private static void first(StepsAhead x, int... factors) {
-        x.expression(0, factors[0], factors[1], factors[2], factors[3], factors[4], factors[5]);
-    }
-
-    private static void second(StepsAhead x, int... factors) {
-        x.expression(1, factors[0], factors[1], factors[2], factors[3], factors[4], factors[5]);
-    }
-
     private static void dueTerm(String what, StepsAhead x, int routine, int side, int t, long... want) {
         for (int i = 0; i < 4; i++) {
             due(what + ": term " + t + "." + i, x.term(routine, side, t, i), want[i]);
@@ -87,19 +67,6 @@ public final class PromiseTests {
         StepsAhead z = coins(12);
         z.lot(1);
         due("1: the lot is 1", y.worth(0, 20, 0, 2), z.worth(0, 20, 0, 2));
-    }
-
-    /** A loop of x0 rounds, each with an either of 0 and some steps. */
-    private static StepsAhead coins(int c) {
-        StepsAhead x = withRoutines(1);
-        first(x, 0, 1, 0, 0, 0, 0);
-        x.loop(0);
-        x.either(0);
-        x.close(0, OR);
-        x.work(0, c);
-        x.close(0, DONE);
-        x.close(0, END);
-        return x;
     }
 
     private static void promise2Routine() {
@@ -314,20 +281,6 @@ public final class PromiseTests {
         due("9: it is called no more", x.sure(1), 1);
     }
 
-    private static StepsAhead allKinds() {
-        StepsAhead x = withRoutines(2);
-        first(x, 1, 0, 2, 0, 0, 1);
-        second(x, 0, 1, 1, 1, 0, 0);
-        x.work(1, 42);
-        x.loop(1);
-        x.call(1, 0);
-        x.either(1);
-        x.close(1, OR);
-        x.close(1, DONE);
-        x.close(1, END);
-        return x;
-    }
-
     private static void promise10Kind() {
         StepsAhead x = allKinds();
         int[] kinds = {1, 3, 4, 5, 7, 8, 6};
@@ -498,35 +451,6 @@ public final class PromiseTests {
         dueTerm("16: 47/15 x0", x, 2, UPPER, 4, 47, 15, 1, 0);
     }
 
-    /**
-     * Routine 0 takes x0 + x0^2 + x0^3 steps, routine 1 takes 2 x0 + x0^2 + x0^3 + x0^4, and routine 2
-     * the sum of 2 + 2 i + i^2 + i^3 + i^4 for i up to x0.
-     */
-    private static StepsAhead fourthPowers() {
-        StepsAhead x = withRoutines(8);
-        first(x, 0, 1, 0, 0, 0, 0);
-        for (int i = 0; i < 3; i++) {
-            x.loop(0);
-        }
-        for (int i = 0; i < 3; i++) {
-            x.close(0, END);
-        }
-        x.loop(1);
-        x.call(1, 0);
-        x.close(1, END);
-        sumOfCalls(x, 2, 1);
-        return x;
-    }
-
-    /** A loop of x0 rounds; each calls with its own number as x0. */
-    private static void sumOfCalls(StepsAhead x, int routine, int called) {
-        first(x, 0, 1, 0, 0, 0, 0);
-        x.loop(routine);
-        first(x, 0, 0, 0, 1, 0, 0);
-        x.call(routine, called);
-        x.close(routine, END);
-    }
-
     private static void promise17Value() {
         StepsAhead x = fourthPowers();
         long sum = 0;
@@ -555,25 +479,6 @@ public final class PromiseTests {
         due("17: 4", y.value(0, LOWER, 2, 0), 4);
         due("17: the worst lies below", y.worth(0, 1, 0, 3), 6);
         due("17: the least lies above", y.worth(0, 1, 0, 4), 3);
-    }
-
-    /** Either 1/2 x0^2 + 3/2 x0 steps or 5 x0. */
-    private static StepsAhead halves() {
-        StepsAhead x = withRoutines(1);
-        x.either(0);
-        first(x, 0, 1, 0, 0, 0, 0);
-        x.loop(0);
-        first(x, 0, 0, 0, 1, 0, 0);
-        x.loop(0);
-        x.close(0, END);
-        x.close(0, END);
-        x.close(0, OR);
-        first(x, 0, 1, 0, 0, 0, 0);
-        x.loop(0);
-        x.work(0, 4);
-        x.close(0, END);
-        x.close(0, DONE);
-        return x;
     }
 
     private static void promise18Sure() {
@@ -646,29 +551,6 @@ public final class PromiseTests {
         z.call(2, 1);
         z.either(0);
         due("19: one called by one called is not whole", z.worth(2, 0, 0, 0), STATE);
-    }
-
-    /** Of 20 and 7: 20 rounds of 27 rounds of 36 rounds, in all 20 * (1 + 27 * (1 + 36)) = 20000. */
-    private static void addTwentyThousandRounds(StepsAhead x, int routine) {
-        first(x, 0, 1, 0, 0, 0, 0);
-        x.loop(routine);
-        first(x, 0, 1, 1, 0, 0, 0);
-        x.loop(routine);
-        first(x, 2, 1, 2, 0, 0, 0);
-        x.loop(routine);
-        closeLoops(x, routine);
-    }
-
-    private static void closeLoops(StepsAhead x, int routine) {
-        for (int i = 0; i < 3; i++) {
-            x.close(routine, END);
-        }
-    }
-
-    private static void addEmptyEither(StepsAhead x, int routine) {
-        x.either(routine);
-        x.close(routine, OR);
-        x.close(routine, DONE);
     }
 
     private static void promise19WorthSpent() {
@@ -754,20 +636,8 @@ public final class PromiseTests {
     /** Asks for the lot by 20 choices of another routine. */
     private static void dueLot(String what, StepsAhead x, int lot) {
         int routine = x.routine();
-        first(x, 0, 1, 0, 0, 0, 0);
-        x.loop(routine);
-        x.either(routine);
-        x.close(routine, OR);
-        x.work(routine, 10);
-        x.close(routine, DONE);
-        x.close(routine, END);
-        int steps = 0;
-        int next = lot;
-        for (int i = 0; i < 20; i++) {
-            next = next * 1103515245 + 12345;
-            steps += 2 + ((next & 0x10000) != 0 ? 10 : 0);
-        }
-        due(what, x.worth(routine, 20, 0, 2), steps);
+        addCoins(x, routine, 10);
+        due(what, choicesOf(x, routine), choicesFrom(lot));
     }
 
     private static void promise20Lot() {
@@ -829,27 +699,6 @@ public final class PromiseTests {
         y.work(3, 1);
         due("22: full ones are not", y.count(3), 7);
         due("22: calls of all", y.count(4), 60);
-    }
-
-    /** Of routines 0 to 3 each but the first calls the one ahead 20 times: routine 3 takes 1000000 steps. */
-    private static StepsAhead million() {
-        StepsAhead x = withRoutines(8);
-        x.work(0, 99);
-        x.work(0, 24);
-        int[] rest = {0, 18, 18, 20};
-        for (int routine = 1; routine < 4; routine++) {
-            for (int i = 0; i < 20; i++) {
-                x.call(routine, routine - 1);
-            }
-            x.work(routine, rest[routine]);
-        }
-        return x;
-    }
-
-    private static void empty(StepsAhead x, int routine) {
-        for (int i = 0; i < 24; i++) {
-            x.back(routine);
-        }
     }
 
     private static void formulasThatAreFull() {
