@@ -376,6 +376,12 @@ public final class TermsBoundaryTests extends SentenceTests {
         x.close(2, END);
         due("behind its end it is gone", x.worth(2, 0, 0, 0), 2);
         dueValue("behind its end it is gone", x, 2, 0, 0, 2);
+        StepsAhead y = fourthPowers();
+        loop(y, 3, X0);
+        call(y, 3, 2, I1);
+        y.close(3, END);
+        due("not in a loop's fifth powers either", y.worth(3, 5, 0, 0), 5 * 2);
+        dueValue("not in a loop's fifth powers either", y, 3, 5, 0, 5 * 2);
     }
 
     private static void kindsOfOps() {

@@ -58,8 +58,10 @@ abstract class Programs {
     }
 
     static void calls(StepsAhead x, int routine, int called, int[] x0, int times) {
+        first(x, x0);
+        second(x, ZERO);
         for (int i = 0; i < times; i++) {
-            call(x, routine, called, x0);
+            x.call(routine, called);
         }
     }
 
