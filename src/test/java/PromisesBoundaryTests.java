@@ -572,6 +572,9 @@ public final class PromisesBoundaryTests extends SentenceTests {
             due("open", y.term(2, UPPER, 0, what), STATE);
             due("calls one that is open", y.term(3, LOWER, 0, what), STATE);
         }
+        // how many terms there are is not known, so no t from 0 on is too great yet
+        due("full, whatever t", y.term(1, UPPER, MOST, 0), FULL);
+        due("open, whatever t", y.term(2, UPPER, MOST, 0), STATE);
     }
 
     private static void promise17Value() {
