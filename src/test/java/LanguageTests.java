@@ -13,16 +13,15 @@ import java.util.regex.Pattern;
 public final class LanguageTests {
     private static int wrong = 0;
 
-    private static final String[] FACE = {
-        "int routine 0", "int expression 7", "int work 2", "int loop 1", "int call 2", "int either 1", "int close 2",
-        "int back 1", "int kind 2", "int is 3", "int told 3", "int ask 3", "int trace 1", "int terms 2", "long term 4",
-        "long value 4", "int sure 1", "int worth 4", "int lot 1", "int allowed 4", "int count 1",
-    };
+    /** What the document's code block has between its braces, a line each, without the last semicolon. */
+    private static final Set<String> FACE = new TreeSet<>();
 
     public static void main(String[] args) throws Exception {
-        checkFace();
+        String source = Files.readString(Path.of("src/main/java/StepsAhead.java"));
+        readFace(Files.readString(Path.of("../shared/DOC.md")));
+        checkFace(source);
         checkMembersInside();
-        checkText(Files.readString(Path.of("src/main/java/StepsAhead.java")));
+        checkText(source);
         checkWhatQuestionsMake();
         System.out.println(wrong == 0 ? "the language is kept to" : wrong + " rules are broken");
         if (wrong != 0) {
@@ -37,21 +36,32 @@ public final class LanguageTests {
         }
     }
 
-    private static void checkFace() {
-        Set<String> open = new TreeSet<>();
-        Set<String> hidden = new TreeSet<>();
-        for (Method method : StepsAhead.class.getDeclaredMethods()) {
-            if (Modifier.isPrivate(method.getModifiers())) {
-                hidden.add(method.getName());
-            } else {
-                must(Modifier.isPublic(method.getModifiers()), "a method that is neither public nor private: " + method);
-                open.add(method.getReturnType() + " " + method.getName() + " " + method.getParameterCount());
+    private static void readFace(String document) {
+        Matcher block = Pattern.compile("(?s)```java\\s*public final class StepsAhead \\{(.*?)\\}\\s*```").matcher(document);
+        must(block.find(), "the document has a face");
+        for (String line : block.group(1).split(";")) {
+            if (!line.isBlank()) {
+                FACE.add(line.trim());
             }
         }
-        must(open.equals(new TreeSet<>(Set.of(FACE))), "the document's methods: " + open);
-        for (String method : FACE) {
-            must(!hidden.contains(method.split(" ")[1]), "a private method with the name of a public one: " + method);
+        must(FACE.size() == 23, "constants, a constructor and 21 methods: " + FACE);
+    }
+
+    private static void checkFace(String source) {
+        must(source.contains("public final class StepsAhead {"), "the class is public and final");
+        for (String line : FACE) {
+            must(source.contains("    " + line + (line.endsWith(")") ? " {" : ";")), "as the document has it: " + line);
         }
+        Set<String> open = new TreeSet<>();
+        for (Method method : StepsAhead.class.getDeclaredMethods()) {
+            if (Modifier.isPrivate(method.getModifiers())) {
+                must(!isOfFace(method.getName()), "a private method with the name of a public one: " + method);
+            } else {
+                must(method.getModifiers() == Modifier.PUBLIC, "a method that is neither public nor private: " + method);
+                must(open.add(method.getName()) && isOfFace(method.getName()), "a method that the document has not: " + method);
+            }
+        }
+        must(open.size() == 21, "the document's methods: " + open);
         for (Field field : StepsAhead.class.getDeclaredFields()) {
             boolean constant = Set.of("NONE", "BAD", "STATE", "FULL", "SPENT", "KIND").contains(field.getName());
             int due = constant ? Modifier.PUBLIC : Modifier.PRIVATE;
@@ -59,6 +69,10 @@ public final class LanguageTests {
         }
         Constructor<?>[] constructors = StepsAhead.class.getDeclaredConstructors();
         must(constructors.length == 1 && constructors[0].getParameterCount() == 0, "one constructor");
+    }
+
+    private static boolean isOfFace(String name) {
+        return FACE.stream().anyMatch(line -> line.contains(" " + name + "("));
     }
 
     private static void checkMembersInside() {
@@ -72,9 +86,7 @@ public final class LanguageTests {
             }
             for (Method method : one.getDeclaredMethods()) {
                 must(method.getParameterCount() <= 7, "seven parameters: " + method);
-                for (String ofFace : FACE) {
-                    must(!method.getName().equals(ofFace.split(" ")[1]), "a name of the face inside: " + method);
-                }
+                must(!isOfFace(method.getName()), "a name of the face inside: " + method);
             }
         }
     }
